@@ -223,7 +223,8 @@ public final class WornDots {
         save();
         text.rewind();
         int done = 0;
-        while (done < MAX_TEXT && text.readCommand() && now.carriesOut(text)) {
+        while (done < MAX_TEXT && text.readCommand() && now.whyNotCarryOut(text.word, text.numbers) == FINE) {
+            now.carryOut(text.word, text.numbers);
             done++;
         }
         return done;
@@ -380,7 +381,7 @@ public final class WornDots {
 
         void lose(int degrees) {
             for (int dot = 0; dot < dots; dot++) {
-                heat[dot] = Math.max(0, heat[dot] - degrees);
+                heat[dot] = heat[dot] > degrees ? heat[dot] - degrees : 0;
             }
         }
 
@@ -420,24 +421,17 @@ public final class WornDots {
         int printRows(Label label, int offset, int[] settings) {
             int unread = 0;
             for (int row = 0; row < ROWS; row++) {
-                unread += printLine(label, label.rows[row], offset, settings);
-                lose(settings[COOLING]);
-            }
-            return unread;
-        }
-
-        private int printLine(Label label, int cells, int offset, int[] settings) {
-            int unread = 0;
-            for (int column = 0; column < label.width; column++) {
-                int dot = offset + column;
-                if ((cells >> column & 1) == 1) {
-                    if (fadeOf(dot, settings) > settings[TOLERANCE]) {
+                for (int column = 0; column < label.width; column++) {
+                    int dot = offset + column;
+                    boolean black = (label.rows[row] >> column & 1) == 1;
+                    if (black ? fadeOf(dot, settings) > settings[TOLERANCE] : heat[dot] > settings[SMEAR_HEAT]) {
                         unread++;
                     }
-                    burn(dot, 10 * label.blackness);
-                } else if (heat[dot] > settings[SMEAR_HEAT]) {
-                    unread++;
+                    if (black) {
+                        burn(dot, 10 * label.blackness);
+                    }
                 }
+                lose(settings[COOLING]);
             }
             return unread;
         }
@@ -449,7 +443,7 @@ public final class WornDots {
             int units = (wanted - heat[dot] + 9) / 10;
             burnt[dot] += units;
             burntInAll += units;
-            wear[dot] = Math.min(MAX_WEAR, wear[dot] + units);
+            wear[dot] = wear[dot] + units > MAX_WEAR ? MAX_WEAR : wear[dot] + units;
             heat[dot] = wanted;
         }
     }
@@ -942,45 +936,33 @@ public final class WornDots {
             return best;
         }
 
-        /** Carries out the command that the text has read last; false, and nothing is done, if it would throw. */
-        boolean carriesOut(CommandText text) {
-            int a = text.numbers[0];
-            int b = text.numbers[1];
-            int c = text.numbers[2];
-            if (text.word == null || whyNotCarryOut(text.word, a, b, c) != FINE) {
-                return false;
-            }
-            carryOut(text.word, a, b, c);
-            return true;
-        }
-
-        private int whyNotCarryOut(Word word, int a, int b, int c) {
+        int whyNotCarryOut(Word word, int[] n) {
             switch (word) {
-                case HEAD: return whyNotNewHead(a);
-                case LABEL: return whyNotNewLabel(a, b);
-                case ROW: return whyNotChangeRow(a, b, c);
+                case HEAD: return whyNotNewHead(n[0]);
+                case LABEL: return whyNotNewLabel(n[0], n[1]);
+                case ROW: return whyNotChangeRow(n[0], n[1], n[2]);
                 case CLIENT: return whyNotNewCustomer();
-                case RENT: return whyNotLet(a, b, c);
-                case PRINT: return whyNotPrintAt(a, b, c);
-                case BEST: return whyNotPrintAtBest(a, b);
-                case COOL: return whyNotPassLines(a);
-                case NEW: return whyNotNewDot(a);
-                default: return whyNotChangeSetting(a, b);
+                case RENT: return whyNotLet(n[0], n[1], n[2]);
+                case PRINT: return whyNotPrintAt(n[0], n[1], n[2]);
+                case BEST: return whyNotPrintAtBest(n[0], n[1]);
+                case COOL: return whyNotPassLines(n[0]);
+                case NEW: return whyNotNewDot(n[0]);
+                default: return whyNotChangeSetting(n[0], n[1]);
             }
         }
 
-        private int carryOut(Word word, int a, int b, int c) {
+        int carryOut(Word word, int[] n) {
             switch (word) {
-                case HEAD: return newHead(a);
-                case LABEL: return newLabel(a, b);
-                case ROW: return changeRow(a, b, c);
+                case HEAD: return newHead(n[0]);
+                case LABEL: return newLabel(n[0], n[1]);
+                case ROW: return changeRow(n[0], n[1], n[2]);
                 case CLIENT: return newCustomer();
-                case RENT: return let(a, b, c);
-                case PRINT: return printAt(a, b, c);
-                case BEST: return printAtBest(a, b);
-                case COOL: return passLines(a);
-                case NEW: return newDot(a);
-                default: return changeSetting(a, b);
+                case RENT: return let(n[0], n[1], n[2]);
+                case PRINT: return printAt(n[0], n[1], n[2]);
+                case BEST: return printAtBest(n[0], n[1]);
+                case COOL: return passLines(n[0]);
+                case NEW: return newDot(n[0]);
+                default: return changeSetting(n[0], n[1]);
             }
         }
     }
@@ -991,7 +973,7 @@ public final class WornDots {
         private int length;
         private int place;
         private int fault = NONE;
-        private Word word;
+        private Word word = Word.HEAD;
         private final int[] numbers = new int[MAX_NUMBERS];
 
         int whyNotAppend(int value) {
@@ -1036,11 +1018,12 @@ public final class WornDots {
             }
             int start = place;
             skipLetters();
-            word = wordBetween(start, place);
-            if (word == null) {
+            Word found = wordBetween(start, place);
+            if (found == null) {
                 fault = start;
                 return false;
             }
+            word = found;
             if (!readNumbers(word.numbers) || !readSemicolon()) {
                 fault = place;
                 return false;

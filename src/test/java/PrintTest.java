@@ -125,11 +125,11 @@ final class PrintTest {
         x.set(1, 79);
         Check.gives("80 is above 79", 1, () -> x.unreadable(0, 0, 0));
         x.set(1, 39);
-        Check.gives("print", 5, () -> x.print(0, 0, 0));
-        x.set(1, 25);
-        Check.gives("the dot beside the label is not asked", 1, () -> x.unreadable(0, 0, 1) - 4);
-        Check.gives("a label one dot to the left", 0, () -> x.unreadable(0, 0, 2) - 5);
-        Check.gives("black cells do not smear", 5, () -> x.unreadable(0, 0, 0));
+        Check.gives("print", 5, () -> x.print(0, 0, 1));
+        x.set(1, 29);
+        Check.gives("30 degrees from before, under its black column", 5, () -> x.unreadable(0, 0, 1));
+        Check.gives("30 degrees from before, under its white column", 6, () -> x.unreadable(0, 0, 0));
+        Check.gives("30 degrees from before, beside it", 5, () -> x.unreadable(0, 0, 2));
     }
 
     private static void allowance() {
