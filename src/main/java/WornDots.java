@@ -354,15 +354,14 @@ public final class WornDots {
             System.arraycopy(other.burnt, 0, burnt, 0, MAX_DOTS);
         }
 
-        /** Becomes a head of the dots that a label covers: those beside it have no part in how it is read. */
+        /**
+         * Becomes a head of the dots that a label covers: those beside it have no part in how it is read.
+         * What burnt before is left out, since no question asks for it.
+         */
         void takePart(Head other, int from, int count) {
             dots = count;
-            burntInAll = 0;
-            for (int i = 0; i < count; i++) {
-                heat[i] = other.heat[from + i];
-                wear[i] = other.wear[from + i];
-                burnt[i] = 0;
-            }
+            System.arraycopy(other.heat, from, heat, 0, count);
+            System.arraycopy(other.wear, from, wear, 0, count);
         }
 
         /** Units burnt in all stay: they count the heads that are gone too. */
@@ -448,7 +447,7 @@ public final class WornDots {
         }
     }
 
-    /** A label; a place for one stands ready before it is added. */
+    /** A label. Those to come stand ready, white and unprinted; undo brings them back so. */
     private static final class Label {
         private int width = 1;
         private int blackness = 1;
@@ -462,16 +461,6 @@ public final class WornDots {
             printed = other.printed;
             failed = other.failed;
             System.arraycopy(other.rows, 0, rows, 0, ROWS);
-        }
-
-        void renew(int newWidth, int newBlackness) {
-            width = newWidth;
-            blackness = newBlackness;
-            printed = 0;
-            failed = 0;
-            for (int row = 0; row < ROWS; row++) {
-                rows[row] = 0;
-            }
         }
 
         int allColumns() {
@@ -506,7 +495,7 @@ public final class WornDots {
         }
     }
 
-    /** A customer; a place for one stands ready before it is added. */
+    /** A customer. Those to come stand ready, without money and rent; undo brings them back so. */
     private static final class Customer {
         private int first = NONE;
         private int last = NONE;
@@ -522,14 +511,6 @@ public final class WornDots {
             paidBack = other.paidBack;
             printed = other.printed;
             failed = other.failed;
-        }
-
-        void renew() {
-            rentNothing();
-            paid = 0;
-            paidBack = 0;
-            printed = 0;
-            failed = 0;
         }
 
         void rentNothing() {
@@ -646,7 +627,8 @@ public final class WornDots {
         }
 
         int newLabel(int width, int blackness) {
-            labels[labelCount].renew(width, blackness);
+            labels[labelCount].width = width;
+            labels[labelCount].blackness = blackness;
             labelCount++;
             return labelCount - 1;
         }
@@ -690,7 +672,6 @@ public final class WornDots {
         }
 
         int newCustomer() {
-            customers[customerCount].renew();
             customerCount++;
             return customerCount - 1;
         }

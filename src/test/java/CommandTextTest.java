@@ -10,6 +10,7 @@ final class CommandTextTest {
         faults();
         texts();
         everyWord();
+        numbersInTheirPlaces();
         stopsAtARefusal();
         savesOneState();
         longestText();
@@ -67,6 +68,10 @@ final class CommandTextTest {
         fault(0, "coo 1;");
         fault(0, "cooL 1;");
         fault(0, "cools 1;");
+        fault(0, "coolz 1;");
+        fault(0, "acool 1;");
+        fault(0, "pool 1;");
+        fault(0, "cow 1 1 1;");
         fault(0, "clientclient;");
         fault(0, "x");
         fault(3, "   x");
@@ -164,6 +169,31 @@ final class CommandTextTest {
         Check.gives("run", 1, () -> Text.run(x, "new 5;"));
         Check.gives("new", 0, () -> x.dot(5, 1));
         Check.gives("the other dot", 9, () -> x.dot(7, 1));
+    }
+
+    /** Every number goes to its own argument. */
+    private static void numbersInTheirPlaces() {
+        WornDots x = new WornDots();
+        Check.gives("run", 13, () -> Text.run(x,
+            "client;client;client;label 4 5;label 6 3;set 0 30;label 5 1;row 2 1 16;row 1 3 9;head 20;rent 2 3 17;"
+            + "print 2 1 5;best 2 1;"));
+        Check.gives("label 1: width", 6, () -> x.label(1, 0));
+        Check.gives("label 1: blackness", 3, () -> x.label(1, 1));
+        Check.gives("row", 9, () -> x.row(1, 3));
+        Check.gives("row", 16, () -> x.row(2, 1));
+        Check.gives("set", 30, () -> x.whole(1));
+        Check.gives("rent: from", 3, () -> x.customer(2, 0));
+        Check.gives("rent: to", 17, () -> x.customer(2, 1));
+        Check.gives("printed for it", 2, () -> x.customer(2, 4));
+        Check.gives("printed of it", 2, () -> x.label(1, 3));
+        Check.gives("print burnt", 3, () -> x.dot(8, 1));
+        Check.gives("wears", 12, () -> x.whole(10));
+        Check.gives("run", 4, () -> Text.run(x, "new 8;cool 7;set 6 50;set 4 3;"));
+        Check.gives("new", 0, () -> x.dot(8, 1));
+        Check.gives("lines", 19, () -> x.whole(16));
+        Check.gives("set", 50, () -> x.whole(7));
+        Check.gives("set", 3, () -> x.whole(5));
+        Check.gives("run", 1, () -> Text.run(x, "best 2 1;"));
     }
 
     private static void stopsAtARefusal() {

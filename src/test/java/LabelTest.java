@@ -104,6 +104,12 @@ final class LabelTest {
         Check.gives("blackness", 4, () -> x.label(0, 1));
         Check.gives("black cells", 5, () -> x.label(0, 2));
         Check.gives("columns without black cells", 20, () -> x.label(0, 5));
+        x.addLabel(6, 1);
+        for (int row = 0; row < 6; row++) {
+            x.setRow(1, row, 1 << row);
+            long left = 63 - ((2 << row) - 1);
+            Check.gives("columns without black cells", left, () -> x.label(1, 5));
+        }
         x.print(0, 0, 0);
         Check.gives("printed", 1, () -> x.label(0, 3));
         Check.gives("not read", 0, () -> x.label(0, 4));
@@ -115,7 +121,7 @@ final class LabelTest {
         Check.gives("not read", 1, () -> x.label(0, 4));
         Check.refuses("what too high", Check.ARGUMENT, () -> x.label(0, 6));
         Check.refuses("what too low", Check.ARGUMENT, () -> x.label(0, -1));
-        Check.refuses("no such label", Check.INDEX, () -> x.label(1, 0));
+        Check.refuses("no such label", Check.INDEX, () -> x.label(2, 0));
         Check.refuses("no such label, first of two", Check.INDEX, () -> x.label(-1, 6));
         Check.refuses("no such label", Check.INDEX, () -> x.label(6, 0));
     }

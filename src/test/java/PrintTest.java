@@ -316,6 +316,11 @@ final class PrintTest {
         x.addCustomer();
         x.rent(1, 0, 21);
         Check.gives("only the last place", 22, () -> x.printBest(0, 0));
+        x.rent(1, 0, 22);
+        x.addLabel(1, 1);
+        x.setRow(1, 0, 1);
+        Check.gives("only the last dot", 23, () -> x.bestOffset(0, 1));
+        Check.gives("only the last dot", 23, () -> x.printBest(0, 1));
     }
 
     private static void bestByPrice() {

@@ -11,6 +11,7 @@ final class UndoTest {
         savesWithoutChange();
         digestOfANewObject();
         digestOfAUsedObject();
+        aFullPrinter();
         Check.end();
     }
 
@@ -137,5 +138,23 @@ final class UndoTest {
             2);
         Check.gives("digest of a used object", due, x::digest);
         Check.gives("again", due, x::digest);
+    }
+
+    /** As many dots, labels and customers as there can be. */
+    private static void aFullPrinter() {
+        WornDots x = new WornDots();
+        x.begin(24);
+        Text.run(x, "client;client;client;client;client;client;label 12 9;label 12 9;label 12 9;label 12 9;");
+        Text.run(x, "label 12 9;label 1 1;row 5 0 1;row 4 5 4095;rent 5 12 23;print 5 4 12;print 5 5 23;");
+        Check.gives("most worn", 12, x::mostWorn);
+        Check.gives("paid", 12 * 9 * 5 + 5 * 991 / 1000, () -> x.whole(14));
+        Check.gives("best offset", 12, () -> x.bestOffset(5, 4));
+        Check.gives("best offset of a narrow label", 12, () -> x.bestOffset(5, 5));
+        Check.gives("the last dot", 5, () -> x.dot(23, 2));
+        long before = x.digest();
+        Check.gives("begin", 108, () -> x.begin(4));
+        Check.gives("rented", 0, () -> x.whole(15));
+        Check.gives("undo", 3, x::undo);
+        Check.gives("digest", before, () -> x.digest());
     }
 }
