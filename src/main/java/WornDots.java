@@ -48,7 +48,7 @@ public final class WornDots {
     private static final int UNDO_DEPTH = 4;
     private static final long HASH_START = 43448L;
 
-    /** What a call answers to a wish before it is granted. */
+    /** How a wish is refused, or FINE: told beforehand, so that a run of commands can stop without an exception. */
     private static final int FINE = 0;
     private static final int NO_SUCH_THING = 1;
     private static final int BAD_ARGUMENT = 2;

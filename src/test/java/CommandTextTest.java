@@ -13,6 +13,7 @@ final class CommandTextTest {
         numbersInTheirPlaces();
         stopsAtARefusal();
         savesOneState();
+        bytesThatAreGone();
         longestText();
         Check.end();
     }
@@ -231,6 +232,22 @@ final class CommandTextTest {
         x.clearCommands();
         Check.gives("an empty text", 0, x::runCommands);
         Check.gives("saves a state", 1, x::undo);
+    }
+
+    /** What was typed before the text was emptied must not be read. */
+    private static void bytesThatAreGone() {
+        String[] texts = {"coo", "cool", "cool ", "cool 1", "cool 12", "cool 12 "};
+        int[] faults = {0, 4, 5, 6, 7, 8};
+        for (int i = 0; i < texts.length; i++) {
+            WornDots x = new WornDots();
+            Text.put(x, "cool 12 ; cool 1;");
+            String text = texts[i];
+            Check.gives("fault of <" + text + ">", -10 - faults[i], () -> Text.run(x, text));
+        }
+        WornDots x = new WornDots();
+        Text.put(x, "cool 1;cool 2;");
+        Check.gives("one command", 1, () -> Text.run(x, "cool 3;"));
+        Check.gives("lines", 3, () -> x.whole(16));
     }
 
     private static void longestText() {

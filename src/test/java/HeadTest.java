@@ -185,6 +185,12 @@ final class HeadTest {
         Check.gives("the lowest of four", 7, x::mostWorn);
         x.replace(7);
         Check.gives("the lowest of three", 8, x::mostWorn);
+        x.print(0, 0, 1);
+        x.replace(2);
+        x.print(0, 0, 1);
+        Check.gives("the second dot", 1, x::mostWorn);
+        x.replace(1);
+        x.replace(2);
         x.setRow(0, 0, 2);
         x.print(0, 0, 10);
         Check.gives("the last dot", 11, x::mostWorn);
