@@ -1,3 +1,6 @@
+import java.util.HashSet;
+import java.util.Set;
+
 /** Compares what calls answer with what is due, and tells how it went. */
 final class Check {
 
@@ -9,10 +12,18 @@ final class Check {
     static final Class<?> ARGUMENT = IllegalArgumentException.class;
     static final Class<?> STATE = IllegalStateException.class;
 
+    private static String sentence = "";
+    private static final Set<String> SENTENCES = new HashSet<>();
     private static int right;
     private static int wrong;
 
     private Check() {
+    }
+
+    /** The sentence of the document that is tested from here on: it stands behind each wrong answer. */
+    static void sentence(String words) {
+        sentence = words;
+        SENTENCES.add(words);
     }
 
     static void gives(String name, long due, Call call) {
@@ -36,7 +47,8 @@ final class Check {
             right++;
         } else {
             wrong++;
-            System.out.println(name + " answered " + got + ", due is " + due);
+            System.out.println(name + " answered " + got + ", due is " + due
+                + (sentence.isEmpty() ? "" : " <" + sentence + ">"));
         }
     }
 
@@ -49,7 +61,8 @@ final class Check {
     }
 
     static void end() {
-        System.out.println(right + " answers as due, " + wrong + " not");
+        String of = SENTENCES.isEmpty() ? "" : " for " + SENTENCES.size() + " sentences";
+        System.out.println(right + " answers" + of + " as due, " + wrong + " not");
         if (wrong != 0 || right == 0) {
             System.exit(1);
         }

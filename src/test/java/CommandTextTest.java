@@ -12,6 +12,7 @@ final class CommandTextTest {
         everyWord();
         numbersInTheirPlaces();
         stopsAtARefusal();
+        refusedWords();
         savesOneState();
         bytesThatAreGone();
         longestText();
@@ -201,19 +202,23 @@ final class CommandTextTest {
         WornDots x = new WornDots();
         Check.gives("run", 2, () -> Text.run(x, "client;client;rent 2 0 0;client;"));
         Check.gives("those before it stay done", 2, () -> x.whole(9));
-        String[] refused = {"head 3;", "head 25;", "label 0 1;", "label 13 1;", "label 1 10;", "row 0 0 0;",
-            "rent 0 3 2;", "rent 0 0 12;", "print 0 0 0;", "best 0 0;", "cool 21;", "new 12;", "set 7 0;", "set 0 31;"};
-        for (String text : refused) {
-            Check.gives("run of <" + text + ">", 1, () -> Text.run(x, "cool 1;" + text + "cool 1;"));
-        }
-        Check.gives("lines", refused.length, () -> x.whole(16));
-        Check.gives("labels", 0, () -> x.whole(8));
         Check.gives("rent", 1, () -> Text.run(x, "rent 0 0 3;rent 1 3 4;"));
         Check.gives("seven customers", 4, () -> Text.run(x, "client;client;client;client;client;"));
         Check.gives("seven labels", 6,
             () -> Text.run(x, "label 1 1;label 1 1;label 1 1;label 1 1;label 1 1;label 1 1;label 1 1;"));
         Check.gives("a white label", 0, () -> Text.run(x, "best 0 0;"));
         Check.gives("a black label", 2, () -> Text.run(x, "row 0 0 1;best 0 0;row 0 0 2;"));
+    }
+
+    private static void refusedWords() {
+        String[] refused = {"head 3;", "head 25;", "label 0 1;", "label 13 1;", "label 1 10;", "row 0 0 0;",
+            "rent 0 3 2;", "rent 0 0 12;", "print 0 0 0;", "best 0 0;", "cool 21;", "new 12;", "set 7 0;", "set 0 31;"};
+        for (String text : refused) {
+            WornDots x = new WornDots();
+            Check.gives("run of <" + text + ">", 1, () -> Text.run(x, "cool 1;" + text + "cool 1;"));
+            Check.gives("lines", 1, () -> x.whole(16));
+            Check.gives("labels", 0, () -> x.whole(8));
+        }
     }
 
     private static void savesOneState() {
@@ -250,30 +255,17 @@ final class CommandTextTest {
         Check.gives("lines", 3, () -> x.whole(16));
     }
 
+    /** Each text on a printer of its own: typing 150 bytes takes 150 of the 512 calls that are promised. */
     private static void longestText() {
-        StringBuilder text = new StringBuilder();
-        for (int i = 0; i < 25; i++) {
-            text.append("new 0;");
-        }
-        WornDots x = new WornDots();
-        Check.gives("25 commands", 25, () -> Text.run(x, text.toString()));
-        text.setCharAt(149, ' ');
-        Check.gives("ends too soon", -160, () -> Text.run(x, text.toString()));
-        text.setCharAt(149, 'x');
-        Check.gives("the last byte", -159, () -> Text.run(x, text.toString()));
-        text.setLength(0);
-        for (int i = 0; i < 150; i++) {
-            text.append('a');
-        }
-        Check.gives("one long word", -10, () -> Text.run(x, text.toString()));
-        for (int i = 0; i < 150; i++) {
-            text.setCharAt(i, ' ');
-        }
-        Check.gives("spaces alone", 0, () -> Text.run(x, text.toString()));
-        for (int i = 0; i < 149; i++) {
-            text.setCharAt(i, i < 7 ? "client ".charAt(i) : ' ');
-        }
-        text.setCharAt(149, ';');
-        Check.gives("one command", 1, () -> Text.run(x, text.toString()));
+        Check.gives("25 commands", 25, () -> runOnNew("new 0;".repeat(25)));
+        Check.gives("ends too soon", -160, () -> runOnNew("new 0;".repeat(24) + "new 0 "));
+        Check.gives("the last byte", -159, () -> runOnNew("new 0;".repeat(24) + "new 0x"));
+        Check.gives("one long word", -10, () -> runOnNew("a".repeat(150)));
+        Check.gives("spaces alone", 0, () -> runOnNew(" ".repeat(150)));
+        Check.gives("one command", 1, () -> runOnNew("client" + " ".repeat(143) + ";"));
+    }
+
+    private static int runOnNew(String text) {
+        return Text.run(new WornDots(), text);
     }
 }

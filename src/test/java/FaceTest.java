@@ -8,6 +8,7 @@ import java.nio.file.Path;
 import java.util.Arrays;
 import java.util.Set;
 import java.util.TreeSet;
+import java.util.regex.Pattern;
 import java.util.stream.Collectors;
 
 /** The public face as the document prints it, and those rules of LANGUAGE.md that a look at the file can tell. */
@@ -28,8 +29,17 @@ final class FaceTest {
         "int mostWorn(0)", "int type(1) " + A + " " + S, "int clearCommands(0)", "int runCommands(0)",
         "int undo(0) " + S, "long digest(0)"};
 
-    private static final String[] FORBIDDEN = {"import ", "package ", "->", "::", "synchronized", "assert ", "finally",
-        "catch", "Exact(", "equals(", "hashCode", "toString", "Random", "System.nano", "System.current", "Thread"};
+    /** What stands in no program that keeps to LANGUAGE.md, its comments and texts left out. */
+    private static final String[] FORBIDDEN = {"\\bpackage\\b", "::", "\\bsynchronized\\b", "\\bassert\\b",
+        "\\bfinally\\b", "Exact\\s*\\(", "\\bhashCode\\b", "\\bRandom\\b", "\\bThread\\b",
+        "\\bSystem\\s*\\.\\s*(?!arraycopy\\b)", "\\bstatic\\s*\\{",
+        "\\bimport\\s+(?!java\\.util\\.(ArrayList|List|Iterator|Arrays|NoSuchElementException|\\*)\\s*;)",
+        "\\bcatch\\s*\\([^)]*\\b(Throwable|Error|Exception|ArrayIndexOutOfBoundsException|NullPointerException"
+            + "|ClassCastException|NegativeArraySizeException|ArrayStoreException)\\b"};
+    private static final Pattern COMMENT_OR_TEXT = Pattern.compile(
+        "\"(\\\\.|[^\"\\\\])*\"|'(\\\\.|[^'\\\\])*'|//[^\n]*|/\\*.*?\\*/", Pattern.DOTALL);
+    /** An arrow that does not stand behind a label of a switch begins a lambda. */
+    private static final Pattern LAMBDA = Pattern.compile("(?<=[;{}])\\s*+(?!case\\b|default\\b)[^;{}]*->");
 
     private FaceTest() {
     }
@@ -96,16 +106,20 @@ final class FaceTest {
         }
         for (Class<?> inner : WornDots.class.getDeclaredClasses()) {
             for (Method m : inner.getDeclaredMethods()) {
-                Check.compare("name " + m.getName(), "false", Boolean.toString(names.contains(m.getName())));
+                boolean fine = !Modifier.isPrivate(m.getModifiers()) || !names.contains(m.getName());
+                Check.compare("name " + m.getName(), "true", Boolean.toString(fine));
             }
         }
     }
 
     private static void source() throws Exception {
         String source = Files.readString(Path.of("src/main/java/WornDots.java"), StandardCharsets.UTF_8);
-        for (String word : FORBIDDEN) {
-            Check.compare("the source has " + word, "false", Boolean.toString(source.contains(word)));
+        String code = COMMENT_OR_TEXT.matcher(source).replaceAll(" ");
+        for (String words : FORBIDDEN) {
+            Check.compare("the source has " + words, "false",
+                Boolean.toString(Pattern.compile(words).matcher(code).find()));
         }
+        Check.compare("the source has a lambda", "false", Boolean.toString(LAMBDA.matcher(code).find()));
         Check.compare("all signs are 1 to 127", "true",
             Boolean.toString(source.chars().allMatch(sign -> sign > 0 && sign < 128)));
     }
