@@ -14,20 +14,48 @@ import java.util.stream.Collectors;
 /** The public face as the document prints it, and those rules of LANGUAGE.md that a look at the file can tell. */
 final class FaceTest {
 
-    private static final String I = "IndexOutOfBoundsException";
-    private static final String A = "IllegalArgumentException";
-    private static final String S = "IllegalStateException";
-
+    /** The face as the document prints it, with the words that stand ahead of its calls. */
     private static final String[] FACE = {
-        "int begin(1) " + A, "int set(2) " + A, "int addLabel(2) " + A + " " + S, "int setRow(3) " + I + " " + A,
-        "int replace(1) " + I, "int cool(1) " + A, "int addCustomer(0) " + S,
-        "int rent(3) " + I + " " + A + " " + S, "int endRent(1) " + I + " " + S,
-        "int print(3) " + I + " " + A + " " + S, "int printBest(2) " + I + " " + S, "int dot(2) " + I + " " + A,
-        "int label(2) " + I + " " + A, "int row(2) " + I + " " + A, "int customer(2) " + I + " " + A,
-        "int whole(1) " + A, "int reason(3) " + I + " " + A, "int price(3) " + I + " " + A,
-        "int unreadable(3) " + I + " " + A, "int bestOffset(2) " + I, "int readableFor(3) " + I + " " + A,
-        "int mostWorn(0)", "int type(1) " + A + " " + S, "int clearCommands(0)", "int runCommands(0)",
-        "int undo(0) " + S, "long digest(0)"};
+        "// ---- head and labels",
+        "public int begin(int dots) throws IllegalArgumentException",
+        "public int set(int what, int value) throws IllegalArgumentException",
+        "public int addLabel(int width, int blackness) throws IllegalArgumentException, IllegalStateException",
+        "public int setRow(int label, int row, int cells) throws IndexOutOfBoundsException, IllegalArgumentException",
+        "public int replace(int dot) throws IndexOutOfBoundsException",
+        "public int cool(int lines) throws IllegalArgumentException",
+        "// ---- customers",
+        "public int addCustomer() throws IllegalStateException",
+        "public int rent(int customer, int from, int to) throws IndexOutOfBoundsException, IllegalArgumentException,"
+            + " IllegalStateException",
+        "public int endRent(int customer) throws IndexOutOfBoundsException, IllegalStateException",
+        "public int print(int customer, int label, int offset) throws IndexOutOfBoundsException,"
+            + " IllegalArgumentException, IllegalStateException",
+        "public int printBest(int customer, int label) throws IndexOutOfBoundsException, IllegalStateException",
+        "// ---- values",
+        "public int dot(int dot, int what) throws IndexOutOfBoundsException, IllegalArgumentException",
+        "public int label(int label, int what) throws IndexOutOfBoundsException, IllegalArgumentException",
+        "public int row(int label, int row) throws IndexOutOfBoundsException, IllegalArgumentException",
+        "public int customer(int customer, int what) throws IndexOutOfBoundsException, IllegalArgumentException",
+        "public int whole(int what) throws IllegalArgumentException",
+        "// ---- what if, which changes nothing",
+        "public int reason(int customer, int label, int offset) throws IndexOutOfBoundsException,"
+            + " IllegalArgumentException",
+        "public int price(int customer, int label, int offset) throws IndexOutOfBoundsException,"
+            + " IllegalArgumentException",
+        "public int unreadable(int customer, int label, int offset) throws IndexOutOfBoundsException,"
+            + " IllegalArgumentException",
+        "public int bestOffset(int customer, int label) throws IndexOutOfBoundsException",
+        "public int readableFor(int customer, int label, int offset) throws IndexOutOfBoundsException,"
+            + " IllegalArgumentException",
+        "public int mostWorn()",
+        "// ---- command text, undo and checksum",
+        "public int type(int value) throws IllegalArgumentException, IllegalStateException",
+        "public int clearCommands()",
+        "public int runCommands()",
+        "public int undo() throws IllegalStateException",
+        "public long digest()"};
+    private static final Pattern HEADING_OR_CALL = Pattern.compile(
+        "// ----[^\n]*|public (static )?(int|long) \\w+\\([^{;]*");
 
     /** What stands in no program that keeps to LANGUAGE.md, its comments and texts left out. */
     private static final String[] FORBIDDEN = {"\\bpackage\\b", "::", "\\bsynchronized\\b", "\\bassert\\b",
@@ -54,19 +82,34 @@ final class FaceTest {
     }
 
     private static void methods() {
+        Set<String> due = new TreeSet<>();
+        for (String line : FACE) {
+            if (line.startsWith("public")) {
+                due.add(withoutNames(line));
+            }
+        }
         Set<String> got = new TreeSet<>();
         for (Method m : WornDots.class.getDeclaredMethods()) {
             if (Modifier.isPublic(m.getModifiers())) {
                 got.add(signature(m));
             }
         }
-        Check.compare("face", new TreeSet<>(Arrays.asList(FACE)).toString(), got.toString());
+        Check.compare("face", due.toString(), got.toString());
+    }
+
+    /** A line of the face without the names of the arguments: they are no longer there in a compiled class. */
+    private static String withoutNames(String line) {
+        return line.replaceAll("(int) \\w+(?=[,)])", "$1");
     }
 
     private static String signature(Method m) {
-        String thrown = Arrays.stream(m.getExceptionTypes()).map(Class::getSimpleName)
-            .collect(Collectors.joining(" "));
-        return (m.getReturnType() + " " + m.getName() + "(" + m.getParameterCount() + ") " + thrown).trim();
+        return Modifier.toString(m.getModifiers()) + " " + m.getReturnType() + " " + m.getName()
+            + "(" + names(m.getParameterTypes()) + ")"
+            + (m.getExceptionTypes().length == 0 ? "" : " throws " + names(m.getExceptionTypes()));
+    }
+
+    private static String names(Class<?>[] types) {
+        return Arrays.stream(types).map(Class::getSimpleName).collect(Collectors.joining(", "));
     }
 
     private static void constant() throws NoSuchFieldException {
@@ -97,9 +140,11 @@ final class FaceTest {
     private static void noNameTwice() {
         Set<String> names = new TreeSet<>();
         for (String line : FACE) {
-            names.add(line.substring(line.indexOf(' ') + 1, line.indexOf('(')));
+            if (line.startsWith("public")) {
+                names.add(line.substring(line.lastIndexOf(' ', line.indexOf('(')) + 1, line.indexOf('(')));
+            }
         }
-        Check.gives("names of the face", FACE.length, names::size);
+        Check.gives("names of the face", 27, names::size);
         for (Method m : WornDots.class.getDeclaredMethods()) {
             boolean fine = Modifier.isPublic(m.getModifiers()) || !names.contains(m.getName());
             Check.compare("name " + m.getName(), "true", Boolean.toString(fine));
@@ -114,6 +159,7 @@ final class FaceTest {
 
     private static void source() throws Exception {
         String source = Files.readString(Path.of("src/main/java/WornDots.java"), StandardCharsets.UTF_8);
+        Check.compare("face in the source", String.join("\n", FACE), faceOf(source));
         String code = COMMENT_OR_TEXT.matcher(source).replaceAll(" ");
         for (String words : FORBIDDEN) {
             Check.compare("the source has " + words, "false",
@@ -122,5 +168,12 @@ final class FaceTest {
         Check.compare("the source has a lambda", "false", Boolean.toString(LAMBDA.matcher(code).find()));
         Check.compare("all signs are 1 to 127", "true",
             Boolean.toString(source.chars().allMatch(sign -> sign > 0 && sign < 128)));
+    }
+
+    /** The headings and the calls in the order in which they stand in the source. */
+    private static String faceOf(String source) {
+        return HEADING_OR_CALL.matcher(source).results()
+            .map(found -> found.group().replaceAll("\\s+", " ").trim())
+            .collect(Collectors.joining("\n"));
     }
 }
